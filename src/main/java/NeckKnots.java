@@ -864,14 +864,14 @@ public final class NeckKnots {
 
     /** Reads texts of both languages. */
     private static final class Reader {
-        /** Kinds of tokens: 0 .. 255 single bytes, these, and the keywords from FIRST_KEYWORD on in their row. */
+        /** Kinds of tokens: 0 .. 255 single bytes, these, and the keywords in the order of their rows. */
         private static final int NUMBER = 256;
         private static final int TEXT_END = 257;
         private static final int STRANGE = 258;
         /** Stands for every token behind a fault, so that nothing can go on. */
         private static final int FAILED = 259;
-        private static final int FIRST_KEYWORD = 300;
-        private static final String KEYWORDS = "takes grips bars if or and not place side at before thick mood lay on through draw mirror times knots done latest many end cloth";
+        private static final String SHARED_AND_LAWS = "takes grips bars if or and not place side at before thick mood";
+        private static final String ORDERS = "lay on through draw mirror times knots done latest many end cloth";
         static final int TAKES = 300;
         static final int GRIPS = 301;
         static final int BARS = 302;
@@ -971,7 +971,8 @@ public final class NeckKnots {
             starts[tokens] = from;
             numbers[tokens] = 0;
             if (isLetter(bytes[from])) {
-                kinds[tokens] = keyword(bytes, from, to);
+                int shared = keyword(SHARED_AND_LAWS, TAKES, bytes, from, to);
+                kinds[tokens] = shared != STRANGE ? shared : keyword(ORDERS, LAY, bytes, from, to);
             } else if (isDigit(bytes[from])) {
                 kinds[tokens] = NUMBER;
                 numbers[tokens] = numberOf(bytes, from, to);
@@ -990,20 +991,21 @@ public final class NeckKnots {
             return number;
         }
 
-        private static int keyword(int[] bytes, int from, int to) {
-            int index = 0;
+        /** The kind of the word in a row of keywords of which the first is of kind first. */
+        private static int keyword(String row, int first, int[] bytes, int from, int to) {
+            int kind = first;
             int at = from;
             boolean same = true;
-            for (int i = 0; i <= KEYWORDS.length(); i++) {
-                if (i == KEYWORDS.length() || KEYWORDS.charAt(i) == ' ') {
+            for (int i = 0; i <= row.length(); i++) {
+                if (i == row.length() || row.charAt(i) == ' ') {
                     if (same && at == to) {
-                        return FIRST_KEYWORD + index;
+                        return kind;
                     }
-                    index++;
+                    kind++;
                     at = from;
                     same = true;
                 } else {
-                    same = same && at < to && bytes[at] == KEYWORDS.charAt(i);
+                    same = same && at < to && bytes[at] == row.charAt(i);
                     at++;
                 }
             }
