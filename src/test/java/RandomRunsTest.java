@@ -160,7 +160,7 @@ public final class RandomRunsTest {
                     call("home");
                 }
                 break;
-            case 9: call("hands", upTo(9) == 0 ? edge : upTo(1000001), upTo(9) == 0 ? edge : 1 + upTo(100), upTo(9) == 0 ? edge : 3 + upTo(6)); break;
+            case 9: call("hands", upTo(9) == 0 ? edge : upTo(1000001), upTo(9) == 0 ? edge : 1 + upTo(100), upTo(9) == 0 ? edge : 3 + upTo(10)); break;
             case 10: call("drawn", upTo(16) - 1); break;
             case 11: call("image", upTo(3)); break;
             case 12: call("back", upTo(3)); break;
@@ -198,7 +198,7 @@ public final class RandomRunsTest {
             } else if (roll < 70) {
                 seePaper();
             } else if (roll < 80) {
-                call("wear", upTo(9) - 1);
+                call("wear", upTo(20) == 0 ? upTo(9) - 1 : upTo(fast.count(1) + 1));
             } else {
                 rest();
             }
