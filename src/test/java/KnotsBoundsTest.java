@@ -251,6 +251,7 @@ public final class KnotsBoundsTest {
         Due.due("thick 2", thick.ways(3, -1), 0);
         thick.terms(2, 1);
         Due.due("thick 1", thick.ways(3, -1), 2);
+        barredPairs();
         int last = -1;
         for (int i = 0; i < 8; i++) {
             int code = 0;
@@ -261,6 +262,24 @@ public final class KnotsBoundsTest {
             last = code;
         }
         Due.due("no 9th", x.word(5, 8, 0), -1);
+    }
+
+    /** Of all words of 5 those are left that have not the one barred move. */
+    private static void barredPairs() {
+        NeckKnots free = new NeckKnots();
+        for (int at = 1; at < 5; at++) {
+            for (int before = 0; before < 3; before++) {
+                for (int place = 0; place < 3; place++) {
+                    int left = 0;
+                    for (int i = 0; i < 8; i++) {
+                        left += free.word(5, i, at - 1) == before && free.word(5, i, at) == place ? 0 : 1;
+                    }
+                    String law = "bars if at = " + at + " and before = " + before + " and place = " + place;
+                    Due.due("ways(5, NONE) by " + law, Due.ruled(law).ways(5, -1), left);
+                }
+            }
+            free = new NeckKnots();
+        }
     }
 
     private static void best(NeckKnots x, int cloth, int... places) {
@@ -352,10 +371,13 @@ public final class KnotsBoundsTest {
                 + " changed in the WORD.");
         NeckKnots x = new NeckKnots();
         Due.due("without sights", x.fits(4, 0, -1, 0), 4);
-        x.sight(4, 0);
-        Due.due("a sight of a move that 4 have not", x.fits(4, 0, -1, 0), 4);
-        Due.due("a sight of a move that 5 have", x.fits(5, 0, -1, 0), 0);
-        x.forget();
+        for (int place = 0; place < 3; place++) {
+            x.sight(4, place);
+            Due.due("a sight of a move that 4 have not", x.fits(4, 0, -1, 0), 4);
+            Due.due("a sight of a move that 4 have not, in a mirror", x.fits(4, 1, -1, 0), 4);
+            Due.due("a sight of a move that 5 have", x.fits(5, 0, -1, 0), place == 2 ? 8 : 0);
+            x.forget();
+        }
         x.sight(3, 2);
         Due.due("a sight of the last of 4", x.fits(4, 0, -1, 0), 4);
         x.sight(0, 0);
@@ -376,6 +398,14 @@ public final class KnotsBoundsTest {
         }
         Due.due("12 sights", x.fits(12, 0, -1, 0), 1);
         Due.due("12 sights in a mirror", x.fits(12, 1, 0, 0), 0);
+        NeckKnots oneSided = Due.ruled("bars if at = 0 and place = 1");
+        oneSided.sight(0, 0);
+        Due.due("0102", oneSided.fits(4, 0, -1, 0), 1);
+        Due.due("1012 is barred", oneSided.fits(4, 1, -1, 0), 0);
+        oneSided.forget();
+        oneSided.sight(0, 1);
+        Due.due("1012 is barred", oneSided.fits(4, 0, -1, 0), 0);
+        Due.due("0102 in a mirror", oneSided.fits(4, 1, -1, 0), 1);
     }
 
     private static void looking() {
@@ -454,6 +484,16 @@ public final class KnotsBoundsTest {
         many.boy(10);
         row(many, 1, 0);
         wearingAll();
+        NeckKnots last = new NeckKnots();
+        for (int k = 0; k < 7; k++) {
+            last.knot(0, 1, 200);
+            Due.lay(last, k, 0, 1, 2);
+        }
+        Due.tied(last, 0, 1, 0, 1, 2);
+        for (int b = 0; b < 6; b++) {
+            last.boy(b == 0 ? 8 : 9);
+        }
+        row(last, 100, 7, 100, 100, 100, 100);
     }
 
     /** The four fronts that a knot which is through can have, each twice, for six boys. */
@@ -578,6 +618,13 @@ public final class KnotsBoundsTest {
         Due.due("thick", x.of(0, 1), 9);
         Due.due("moves", x.of(0, 3), 0);
         Due.due("through", x.of(0, 4), 0);
+        for (int length = 1; length < 6; length++) {
+            NeckKnots cut = new NeckKnots();
+            cut.feed(0x00010100, 0x01010001, 0x01000101, 0x00010100, 0x01010001);
+            cut.end(length);
+            Due.due("row() of " + length + " when more has been there", cut.row(), length / 3);
+            Due.due("lint()", cut.lint(), length % 3 == 0 ? 0 : 1);
+        }
         NeckKnots full = new NeckKnots();
         Texts.row(full, bytes(24));
         Due.due("row() with no room", Texts.row(full, bytes(3)), 0);

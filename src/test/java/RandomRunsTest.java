@@ -80,8 +80,8 @@ public final class RandomRunsTest {
     /** A whole knot laid and put through, so that there is something to wear. */
     private void tie() throws ReflectiveOperationException {
         int knot = upTo(8);
-        int at = fast.of(knot, 3);
-        int start = fast.of(knot, 0);
+        int at = slow.of(knot, 3);
+        int start = slow.of(knot, 0);
         for (int i = 0; i < 12; i++) {
             call("lay", knot, upTo(3));
         }
@@ -97,7 +97,7 @@ public final class RandomRunsTest {
 
     private void shortTie() throws ReflectiveOperationException {
         int start = upTo(2);
-        int knot = fast.count(0);
+        int knot = slow.count(0);
         call("knot", start, 1 + upTo(3), 60 + upTo(140));
         int extra = start + 2 * upTo(3);
         for (int i = 0; i < extra; i++) {
@@ -198,7 +198,7 @@ public final class RandomRunsTest {
             } else if (roll < 70) {
                 seePaper();
             } else if (roll < 80) {
-                call("wear", upTo(20) == 0 ? upTo(9) - 1 : upTo(fast.count(1) + 1));
+                call("wear", upTo(20) == 0 ? upTo(9) - 1 : upTo(slow.count(1) + 1));
             } else {
                 rest();
             }

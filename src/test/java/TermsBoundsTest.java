@@ -233,6 +233,13 @@ public final class TermsBoundsTest {
         Due.due("a knot's own thickness", x.asks(0, 0, 0), 7);
         x.terms(1, 0);
         Due.due("thickness of words", x.best(33, 3), 33);
+        NeckKnots moods = Due.ruled("takes mood; bars if mood = 9");
+        moods.knot(0, 1, 200);
+        for (int mood : new int[] {0, 8, 9, 0}) {
+            moods.terms(0, mood);
+            Due.due("mood " + mood + " of a move", moods.asks(0, 0, 0), mood);
+            Due.due("mood " + mood + " on paper", moods.ways(3, -1), mood == 9 ? 0 : 2);
+        }
         for (int bad : new int[] {-1, 3, FAR[0], FAR[1]}) {
             Due.refused(NeckKnots::new, "terms(" + bad + ", 1)", y -> y.terms(bad, 1), -1);
         }
@@ -323,6 +330,11 @@ public final class TermsBoundsTest {
             boolean sign = "+-*/%;".indexOf(c) >= 0;
             Due.fault(true, "takes 1" + c, c == ' ' || digit(c) ? -1 : sign ? 8 : 7);
             Due.fault(true, c + "bars", c == ' ' ? -1 : 0);
+            Due.fault(true, "takes " + c, digit(c) ? -1 : c == ' ' || c == '[' ? 7 : 6);
+        }
+        for (char c : new char[] {'?', '(', ';', 0, 255}) {
+            Due.fault(true, String.valueOf(c).repeat(400), 0);
+            Due.fault(false, String.valueOf(c).repeat(400), 0);
         }
         Due.fault(true, "ba rs", 0);
         Due.fault(true, "takes 1 0", 8);
@@ -419,11 +431,16 @@ public final class TermsBoundsTest {
         Due.due("1000 / 50 - 0", x.asks(0, 0, 0), 20);
         Due.fault(true, "takes placed", 6);
         Due.fault(true, "takes plac", 6);
-        Due.fault(true, "takes knots", 6);
-        Due.fault(true, "takes many 0", 6);
-        Due.fault(true, "takes if", 6);
-        Due.fault(false, "mirror place", 7);
-        Due.fault(false, "mirror mood", 7);
+        List<String> ofLaws = List.of("place", "side", "at", "before", "thick", "mood");
+        List<String> ofOrders = List.of("knots", "done", "latest", "many", "end", "cloth");
+        for (String word : ("takes grips bars if or and not place side at before thick mood lay on through draw mirror times"
+                + " knots done latest many end cloth").split(" ")) {
+            Due.fault(true, "takes " + word + " 0", ofLaws.contains(word) ? 7 + word.length() : 6);
+            Due.fault(true, "takes " + word, ofLaws.contains(word) ? -1 : 6);
+            boolean ofKnot = ofOrders.indexOf(word) > 2;
+            Due.fault(false, "mirror " + word + " 0", ofKnot ? -1 : ofOrders.contains(word) ? 8 + word.length() : 7);
+            Due.fault(false, "mirror " + word, ofKnot ? 7 + word.length() : ofOrders.contains(word) ? -1 : 7);
+        }
     }
 
     private static void parts() {
@@ -447,8 +464,10 @@ public final class TermsBoundsTest {
         NeckKnots x = Due.ruled("grips 0" + "+0".repeat(48) + "+5");
         x.knot(0, 1, 200);
         Due.due("all of 50", x.asks(0, 0, 1), 5);
-        Due.rule(x, "grips 0" + "+0".repeat(48) + "+6");
-        Due.due("each text has 50 of its own", x.asks(0, 0, 1), 6);
+        for (int i = 0; i < 5; i++) {
+            Due.rule(x, "grips 0" + "+0".repeat(48) + "+" + i);
+            Due.due("each text has 50 of its own", x.asks(0, 0, 1), i);
+        }
         Due.sentence("II", "K, TIMES aside, NUMBERS and words count as PARTS.");
         String orders = "mirror 0" + "+0*many 7".repeat(24) + "*end 0";
         Due.fault(false, orders, -1);
@@ -482,6 +501,9 @@ public final class TermsBoundsTest {
         Due.fault(true, "bars if not(not(not(not(not(not(not(not(not(1=1)))))))))", 43);
         Due.fault(false, "mirror " + eight.replace('7', '0'), -1);
         Due.fault(false, "mirror [" + eight + "]", 15);
+        Due.fault(false, "lay " + eight + " on " + eight, -1);
+        Due.fault(false, "lay " + eight + " on [" + eight + "]", 33);
+        Due.fault(false, "mirror 0 if ((((((((0=0))))))))", -1);
     }
 
     private static void faults() {
@@ -495,18 +517,50 @@ public final class TermsBoundsTest {
         Due.fault(true, "takes 1001 1001 +", 6);
         Due.fault(true, "  ?", 2);
         Due.fault(true, "bars 1;x", 5);
+    }
+
+    private static void clauseForms() {
+        Due.sentence("II", "CLAUSE: ((\"takes\" | \"grips\") SUM | \"bars\") [\"if\" TEST].");
+        Due.fault(true, "takes 1 if 1=1", -1);
+        Due.fault(true, "grips 1", -1);
+        Due.fault(true, "bars", -1);
+        Due.fault(true, "grips", 5);
+        Due.fault(true, "grips if 1=1", 6);
+        Due.fault(true, "bars 1", 5);
+        Due.fault(true, "takes 1 if 1=1 if 1=1", 15);
+        Due.fault(true, "if 1=1", 0);
+        Due.fault(true, "1", 0);
+        Due.fault(true, "takes 1 times 1", 8);
+        for (String other : new String[] {"lay 0 on 0", "through 0", "draw 0", "mirror 0", "on 0", "place", "times 1", "or"}) {
+            Due.fault(true, other, 0);
+        }
+        Due.sentence("II", "CLAUSE: (\"lay\" SUM \"on\" SUM | \"through\" SUM | \"draw\" SUM | \"mirror\" SUM)"
+                + " [\"times\" TIMES] [\"if\" TEST]. (a PLACE, a KNOT; a KNOT.)");
+        Due.fault(false, "lay 0 on 0", -1);
+        Due.fault(false, "lay 0 on 0 times 1 if 1=1", -1);
         Due.fault(false, "lay 0 on", 8);
         Due.fault(false, "lay 0   ", 8);
+        Due.fault(false, "lay 0;draw 0", 5);
         Due.fault(false, "lay on 0", 4);
         Due.fault(false, "lay 0 0", 6);
+        Due.fault(false, "lay 0 on 0 on 0", 11);
+        Due.fault(false, "through 0 on 0", 10);
+        Due.fault(false, "draw 0 on 0", 7);
         Due.fault(false, "mirror 0 on 0", 9);
+        Due.fault(false, "through", 7);
+        Due.fault(false, "draw", 4);
+        Due.fault(false, "mirror", 6);
         Due.fault(false, "mirror 0 times 2 times 2", 17);
         Due.fault(false, "mirror 0 if 1=1 times 2", 16);
         Due.fault(false, "mirror 0 if 1=1 if 1=1", 16);
-        Due.fault(true, "bars 1", 5);
-        Due.fault(true, "takes 1 times 1", 8);
-        Due.fault(true, "lay 0 on 0", 0);
-        Due.fault(false, "bars", 0);
+        for (String other : new String[] {"takes 1", "grips 1", "bars", "on 0", "knots", "times 1", "if 1=1", "or", "0"}) {
+            Due.fault(false, other, 0);
+        }
+        NeckKnots x = Due.with(0, 1);
+        x.knot(0, 1, 200);
+        Due.due("a place, a knot", Texts.orders(x, "lay 0 on 1"), 1);
+        Due.due("of(1, 3)", x.of(1, 3), 1);
+        Due.due("of(1, 12)", x.of(1, 12), 0);
     }
 
     // ---- II: what texts mean ----
@@ -537,6 +591,26 @@ public final class TermsBoundsTest {
     private static void broken(String test) {
         Due.due(test, isSo(test) ? 1 : 0, 0);
         Due.due("not (" + test + ")", isSo("not (" + test + ")") ? 1 : 0, 0);
+    }
+
+    private static void comparisons() {
+        Due.sentence("II", "PLAIN: \"not\" PLAIN | \"(\" TEST \")\" | SUM (\"<\" | \">\" | \"=\") SUM.");
+        so("1<2");
+        notSo("2<2");
+        notSo("3<2");
+        so("2>1");
+        notSo("2>2");
+        notSo("2>3");
+        so("2=2");
+        notSo("1=2");
+        notSo("3=2");
+        so("0-1000*1000*1000<1000*1000*1000");
+        notSo("0-1000*1000*1000>1000*1000*1000");
+        notSo("0-1000*1000*1000=1000*1000*1000");
+        so("not (not 1=1)");
+        notSo("not (not 1=2)");
+        so("not (not (not 1=2))");
+        so("not not 1=1 and not 1=2");
     }
 
     private static void far() {
@@ -638,6 +712,8 @@ public final class TermsBoundsTest {
             x.lay(0, place);
             ahead = place;
         }
+        Due.due("at of all together", x.of(0, 5), 66);
+        Due.due("before of all together: -1, 0, 1, 2, 0, 1, 2, 0, 1, 2, 0, 1", x.of(0, 6), 9);
         NeckKnots y = Due.ruled("bars if at = 11");
         Due.due("words of 12 have a move 11", y.ways(12, -1), 0);
         Due.due("words of 11 have none", y.ways(11, -1), 512);
@@ -806,10 +882,42 @@ public final class TermsBoundsTest {
             Due.due("undo() as ahead of it", x.undo(), kind);
         }
         Due.due("no more to undo", x.undo(), -3);
+        undoneBehindStop();
         NeckKnots y = Due.with(0, 1);
         Due.due("the 14th", Texts.orders(y, "mirror 0;lay done%2 on 0 times 12;lay 0 on 0"), -3);
         Due.due("what comes behind is not run", Texts.orders(y, "draw 0;mirror 0"), -3);
         Due.due("count(4)", y.count(4), 0);
+    }
+
+    /** What was to be undone is so again: which it was, of which knot, to which place. */
+    private static void undoneBehindStop() {
+        NeckKnots x = Due.with(0, 1);
+        x.knot(0, 1, 200);
+        x.knot(0, 1, 200);
+        Due.lay(x, 0, 0, 1, 2, 1);
+        Due.lay(x, 1, 2, 0, 1, 0);
+        for (int i = 0; i < 4; i++) {
+            x.draw(0);
+            x.draw(1);
+        }
+        Due.due("what stops", Texts.orders(x, "lay done%3 on 2 times 12;draw 2 times 12;draw 2"), -3);
+        int[] first = {0, 1, 2, 1};
+        int[] second = {2, 0, 1, 0};
+        for (int i = 0; i < 4; i++) {
+            Due.due("undo() of draw(1)", x.undo(), 2);
+            Due.due("its place", x.of(1, 12 + i), second[i]);
+            Due.due("undo() of draw(0)", x.undo(), 2);
+            Due.due("its place", x.of(0, 12 + i), first[i]);
+        }
+        for (int i = 3; i >= 0; i--) {
+            Due.due("undo() of lay() on 1", x.undo(), 0);
+            Due.due("moves of 1", x.of(1, 3), i);
+        }
+        for (int i = 3; i >= 0; i--) {
+            Due.due("undo() of lay() on 0", x.undo(), 0);
+            Due.due("moves of 0", x.of(0, 3), i);
+        }
+        Due.due("knot 2 was never laid", x.of(2, 3), 0);
     }
 
     public static void main(String[] args) throws IOException {
@@ -819,7 +927,7 @@ public final class TermsBoundsTest {
         all.addAll(List.of(TermsBoundsTest::boys, TermsBoundsTest::sights, TermsBoundsTest::terms, TermsBoundsTest::refusals,
                 TermsBoundsTest::orderOfRefusals, TermsBoundsTest::tape, TermsBoundsTest::tokens, TermsBoundsTest::clauses));
         all.addAll(List.of(TermsBoundsTest::grammar, TermsBoundsTest::numbers, TermsBoundsTest::parts, TermsBoundsTest::brackets,
-                TermsBoundsTest::faults, TermsBoundsTest::far, TermsBoundsTest::division, TermsBoundsTest::shortCuts));
+                TermsBoundsTest::faults, TermsBoundsTest::clauseForms, TermsBoundsTest::comparisons, TermsBoundsTest::far, TermsBoundsTest::division, TermsBoundsTest::shortCuts));
         all.addAll(List.of(TermsBoundsTest::laws, TermsBoundsTest::words, TermsBoundsTest::holding, TermsBoundsTest::taking,
                 TermsBoundsTest::gripping, TermsBoundsTest::times, TermsBoundsTest::asking, TermsBoundsTest::orderWords,
                 TermsBoundsTest::stopping));
