@@ -517,6 +517,20 @@ public final class PromisesBoundsTest {
         Due.due("its place", x.of(1, 15), 0);
         Due.due("moves of 0", x.of(0, 3), 2);
         Due.due("a 17th", x.undo(), -3);
+        NeckKnots y = Due.with(0, 1, 0);
+        y.knot(0, 1, 200);
+        Due.lay(y, 0, 1);
+        Due.lay(y, 1, 1);
+        for (int i = 0; i < 15; i++) {
+            y.mirror(0);
+        }
+        for (int i = 0; i < 15; i++) {
+            y.undo();
+        }
+        Due.due("the 16th", y.undo(), 0);
+        Due.due("it was of knot 1", y.of(1, 3), 0);
+        Due.due("the 17th was of knot 0", y.of(0, 3), 2);
+        Due.due("it is gone", y.undo(), -3);
     }
 
     private static Supplier<NeckKnots> behind(ToIntFunction<NeckKnots> act) {
@@ -675,6 +689,8 @@ public final class PromisesBoundsTest {
         Due.none(() -> Due.ruled("takes 0"), "best(0, 3)", x -> x.best(0, 3), -1);
         Due.none(() -> Due.ruled("takes 0;takes 1 if at = 0"), "best(1, 3)", x -> x.best(1, 3), 1);
         Due.none(NeckKnots::new, "best(200, 0)", x -> x.best(200, 0), 11);
+        Due.none(NeckKnots::new, "best(20, 1)", x -> x.best(20, 1), 0);
+        Due.none(NeckKnots::new, "best(20, 2)", x -> x.best(20, 2), 2);
         Due.none(NeckKnots::new, "best(200, 1)", x -> x.best(200, 1), 0);
         Due.none(NeckKnots::new, "best(200, 2)", x -> x.best(200, 2), 8);
         Due.none(NeckKnots::new, "best(200, 14)", x -> x.best(200, 14), 2);
