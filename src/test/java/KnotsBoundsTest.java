@@ -92,7 +92,7 @@ public final class KnotsBoundsTest {
         NeckKnots x = tied();
         x.draw(0);
         Due.due("through() once more", x.through(0), 3);
-        NeckKnots barred = Due.with(0, 1, 0, 1, 2);
+        NeckKnots barred = clothed(9, 0, 1, 2);
         Due.rule(barred, "bars;takes 20;grips 0-9");
         Due.due("whatever the law", barred.through(0), 3);
         NeckKnots twelve = Due.with(1, 1, 0, 1, 0, 1, 0, 1, 0, 1, 2, 0, 1, 2);
@@ -252,6 +252,10 @@ public final class KnotsBoundsTest {
         thick.terms(2, 1);
         Due.due("thick 1", thick.ways(3, -1), 2);
         barredPairs();
+        NeckKnots lengths = Due.ruled("bars if at = 11 and before = 2;grips 0-9 if at = 11");
+        for (int n : new int[] {4, 5, 6, 3, 12, 11, 4, 7, 10, 9, 8, 12}) {
+            Due.due("words of " + n + " among others", lengths.ways(n, -1), 1 << (n - 2));
+        }
         int last = -1;
         for (int i = 0; i < 8; i++) {
             int code = 0;

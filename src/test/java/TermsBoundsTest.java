@@ -304,6 +304,12 @@ public final class TermsBoundsTest {
         Due.fault(true, filled("bars", ' ', "?"), 399);
         Due.fault(true, filled("", ' ', "bars"), -1);
         Due.fault(true, filled("takes 1 ", ' ', "+"), 400);
+        Due.fault(true, filled("", ' ', "tak"), 397);
+        Due.fault(true, filled("takes", ' ', "plac"), 396);
+        Due.fault(true, filled("takes", ' ', "place"), -1);
+        Due.fault(false, filled("mirror", ' ', "knot"), 396);
+        Due.fault(false, filled("mirror", ' ', "many"), 400);
+        Due.fault(false, filled("mirror 0 times", ' ', "9"), -1);
         Due.fault(false, filled("", ' ', "mirror 0"), -1);
         NeckKnots x = Due.ruled(filled("takes ", '0', "7"));
         x.knot(0, 1, 200);
@@ -475,6 +481,12 @@ public final class TermsBoundsTest {
         Due.fault(false, orders + " times 1;mirror 0", orders.length() + 16);
         Due.fault(false, orders + ";mirror cloth 0", orders.length() + 8);
         Due.fault(false, orders + " if done = 0", orders.length() + 4);
+        String behindTimes = "mirror 0 times 2;mirror 0" + "+0".repeat(48);
+        Due.fault(false, behindTimes, -1);
+        Due.fault(false, behindTimes + "+0", behindTimes.length() + 1);
+        String behindKnots = "mirror 0*many 0*end 1*cloth 2;mirror 0" + "+0".repeat(45);
+        Due.fault(false, behindKnots, -1);
+        Due.fault(false, behindKnots + "+0", behindKnots.length() + 1);
         String twice = "lay 0 on 0;".repeat(10) + "mirror 0" + "+0".repeat(28);
         Due.fault(false, twice + "*1", -1);
         Due.fault(false, twice + "*1*1", twice.length() + 3);
