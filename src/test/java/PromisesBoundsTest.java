@@ -1020,7 +1020,9 @@ public final class PromisesBoundsTest {
             Due.due("term " + i, x.count(12 + i), 3 + i);
         }
         Due.due("the one word that fits 12 sights", x.fits(12, 0, -1, 0), 1);
-        Due.due("its first place", x.fits(12, 0, 0, 0), 0);
+        for (int k = 0; k < 12; k++) {
+            Due.due("its place " + k, x.fits(12, 0, 0, k), k == 11 ? 2 : k % 2);
+        }
         Due.due("force", x.count(11), 5);
         Due.due("the 6th law", x.asks(0, 0, 0), 5);
         x.force(0);
