@@ -831,7 +831,7 @@ public final class NeckKnots {
                 } else if (op == SKIP_IF_SO || op == SKIP_IF_NOT) {
                     boolean so = stack[top - 1] == 1;
                     if (so == (op == SKIP_IF_SO)) {
-                        at += arg;
+                        at += Math.max(arg, 0);
                     } else {
                         top--;
                     }
@@ -1533,12 +1533,16 @@ public final class NeckKnots {
                 keep(n, word, takes, grips);
                 return;
             }
-            int before = at == 0 ? NONE : word & 3;
             for (int place = 0; place < PLACES; place++) {
-                int cell = cell(startOfWord(n), at, before, place);
-                if (place != before && mayStand(n, at, place) && !cellBarred[cell]) {
-                    extend(n, at + 1, word * 4 + place, takes + cellTakes[cell], grips + cellGrips[cell]);
-                }
+                extendBy(place, n, at, word, takes, grips);
+            }
+        }
+
+        private void extendBy(int place, int n, int at, int word, int takes, int grips) {
+            int before = at == 0 ? NONE : word & 3;
+            int cell = cell(startOfWord(n), at, before, place);
+            if (place != before && mayStand(n, at, place) && !cellBarred[cell]) {
+                extend(n, at + 1, word * 4 + place, takes + cellTakes[cell], grips + cellGrips[cell]);
             }
         }
 

@@ -10,13 +10,13 @@ import java.util.regex.Pattern;
 
 /**
  * Asks for answers that are due, each under a sentence of the document. A sentence is told by its own words, which must
- * stand in the document; what names a boundary case there and stands in no sentence that was told is a failure, too.
+ * stand in the document; words there that stand in no sentence that was told are a failure, too.
  */
 final class Due {
-    /** How the document speaks of what is too small, too large, empty, full, refused, not there. */
-    private static final Pattern BOUNDARY = Pattern.compile(
-            "-\\d|NONE|NOTHING|\\d \\.\\. \\d|at most|at first|no more|or more|none|empty|else|beyond|Beyond|FAULT|only if"
-            + "|ahead of any|REFUSED|can't be|not kept|without|THROUGH any more|the lowest|; the first|then the first|again");
+    /** What only tells of what a section speaks: its number, a call's own line, the titles ahead of some sentences. */
+    private static final Pattern TITLES = Pattern.compile(
+            "^[IV]+\\. |^`[^`]+`: |TERMS:|ORDERS:|Of both languages:|\\(On paper:\\)|^The constants:");
+    private static final Pattern WORD = Pattern.compile("\\w+");
     private static final int[] WHYS = {-1, -2, -3, -5, -6};
     private static final Map<String, String> DOCUMENT = new LinkedHashMap<>();
     private static final Map<String, String> UNTOLD = new LinkedHashMap<>();
@@ -75,12 +75,12 @@ final class Due {
         UNTOLD.computeIfPresent(section, (s, text) -> text.replace(words, "|"));
     }
 
-    /** Every boundary case of these sections must have been told. */
+    /** Every word of these sections must have been told. */
     static void allTold(String... sections) {
         for (String section : sections) {
             sentence = section;
             String rest = UNTOLD.getOrDefault(section, "NONE: no such section");
-            Matcher m = BOUNDARY.matcher(rest);
+            Matcher m = WORD.matcher(TITLES.matcher(rest).replaceAll(" "));
             if (m.find()) {
                 fail("no test names '" + m.group() + "' in: " + rest);
             }

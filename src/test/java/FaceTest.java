@@ -7,14 +7,13 @@ import java.util.Arrays;
 import java.util.Random;
 import java.util.Set;
 import java.util.TreeSet;
+import java.util.regex.Matcher;
 import java.util.regex.Pattern;
 import java.util.stream.Collectors;
 
 /** The face is the document's, the source keeps to LANGUAGE.md, no call throws, and a run needs little room. */
 public final class FaceTest {
-    private static final String FACE = "knot/3 of/2 terms/2 feed/5 end/1 row/0 lint/0 law/0 orders/0 fault/0 stopped/0 force/1"
-            + " asks/3 lay/2 through/1 draw/1 mirror/1 undo/0 front/2 ways/2 word/3 rank/1 best/2 change/2 alike/2 sight/2"
-            + " forget/0 fits/4 look/2 boy/1 home/0 wear/1 hands/3 drawn/1 image/1 back/1 count/1 status/0";
+    private static final Set<String> LIBRARY = Set.of("System.arraycopy", "Math.max", "Math.min", "Math.abs");
     private static int wrong = 0;
 
     private static void check(String what, boolean so) {
@@ -24,8 +23,20 @@ public final class FaceTest {
         }
     }
 
-    private static void face() {
-        Set<String> want = new TreeSet<>(Arrays.asList(FACE.split(" ")));
+    /** Each method of the document's face and how many arguments it takes. */
+    private static Set<String> promised() throws IOException {
+        Set<String> all = new TreeSet<>();
+        String document = Files.readString(Path.of("../shared/DOC.md"));
+        Matcher m = Pattern.compile("\n    public int (\\w+)\\(([^)]*)\\);").matcher(document);
+        while (m.find()) {
+            all.add(m.group(1) + "/" + Pattern.compile("int ").matcher(m.group(2)).results().count());
+        }
+        check("the document tells 38 methods", all.size() == 38);
+        return all;
+    }
+
+    private static void face() throws IOException {
+        Set<String> want = promised();
         Set<String> got = new TreeSet<>();
         Set<String> hidden = new TreeSet<>();
         for (Method m : NeckKnots.class.getDeclaredMethods()) {
@@ -60,12 +71,27 @@ public final class FaceTest {
         check("no lambda, no method reference", !code.contains("->") && !code.contains("::"));
         check("no text joined by +", !code.contains("\" +") && !code.contains("+ \""));
         check("signs 1 to 127", text.chars().allMatch(c -> c > 0 && c < 128));
+        library(code);
         int length = 0;
         for (String line : text.split("\n")) {
             check("line of at most 120 signs: " + line, line.length() <= 120);
             boolean ends = line.matches("    (    )?\\}");
             length = ends || line.isEmpty() ? 0 : length + 1;
             check("method of at most sixty lines: " + line, length <= 60);
+        }
+    }
+
+    /** Of the library only what the class is known to use, all of which LANGUAGE.md lists. */
+    private static void library(String code) {
+        Set<String> own = Arrays.stream(NeckKnots.class.getDeclaredClasses()).map(Class::getSimpleName).collect(Collectors.toSet());
+        Matcher m = Pattern.compile("\\b[A-Z]\\w*[a-z]\\w*\\b(\\.\\w+)?").matcher(code);
+        while (m.find()) {
+            String name = m.group().split("\\.")[0];
+            check("of the library: " + m.group(), name.equals("NeckKnots") || name.equals("String") || own.contains(name)
+                    || LIBRARY.contains(m.group()));
+        }
+        for (Matcher call = Pattern.compile("\\brow\\.(\\w+)").matcher(code); call.find();) {
+            check("of String: " + call.group(), call.group(1).equals("length") || call.group(1).equals("charAt"));
         }
     }
 

@@ -2,7 +2,7 @@ import java.io.IOException;
 import java.util.Arrays;
 import java.util.List;
 
-/** Each sentence of the document's terms III and IV that names a boundary case has a test of its own here. */
+/** Each sentence of the document's terms III and IV has a test of its own here. */
 public final class KnotsBoundsTest {
     private static NeckKnots tied() {
         NeckKnots x = new NeckKnots();

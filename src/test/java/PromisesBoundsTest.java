@@ -3,7 +3,7 @@ import java.util.List;
 import java.util.function.Supplier;
 import java.util.function.ToIntFunction;
 
-/** Each sentence of the promises 1 to 39 that names a boundary case has a test of its own here. */
+/** Each sentence of the promises 1 to 39 and of the constants has a test of its own here. */
 public final class PromisesBoundsTest {
     private static final int NOTHING = -1000;
     private static final int LEAST = Integer.MIN_VALUE;
@@ -74,6 +74,38 @@ public final class PromisesBoundsTest {
             Due.refused(PromisesBoundsTest::full, call + " in a full drawer", y -> y.knot(b[0], b[1], b[2]), -1);
         }
         Due.refused(PromisesBoundsTest::full, "knot(0, 1, 1)", y -> y.knot(0, 1, 1), -5);
+    }
+
+    private static void figures(NeckKnots x, int knot, int... due) {
+        for (int what = 0; what < due.length; what++) {
+            Due.due("of(" + knot + ", " + what + ")", x.of(knot, what), due[what]);
+        }
+    }
+
+    private static void ofEach() {
+        Due.sentence("3", "Of a KNOT START (what 0), THICK (1), CLOTH (2), how many MOVES (3), whether THROUGH (4: 1, 0),"
+                + " what it TAKES (5), its GRIP (6), whether it HOLDS (7: 1, 0), CENTRES (8), LEAN (9), TWISTS (10),"
+                + " how many are LEFT when it is DRAWN OUT (11),");
+        NeckKnots x = Due.ruled("takes 7;grips 2;grips 3 if at < 5");
+        x.knot(0, 9, 60);
+        x.knot(1, 4, 150);
+        // wound other, one, other, one, other, one, other, other, other
+        Due.lay(x, 1, 2, 0, 2, 0, 2, 0, 2, 0, 1, 2);
+        // wound other, other, one
+        Due.lay(x, 0, 1, 2, 0, 2);
+        figures(x, 1, 1, 4, 150, 10, 0, 70, 25, 0, 5, 3, 6, 3);
+        figures(x, 0, 0, 9, 60, 4, 0, 28, 12, 0, 2, 0, 1, 1);
+        x.through(1);
+        figures(x, 1, 1, 4, 150, 10, 1, 70, 25, 1, 5, 3, 6, 3);
+        x.mirror(1);
+        figures(x, 1, 1, 4, 150, 10, 1, 70, 25, 1, 5, -3, 6, 3);
+        x.terms(1, 26);
+        figures(x, 1, 1, 4, 150, 10, 1, 70, 25, 0, 5, -3, 6, 3);
+        x.force(-1);
+        figures(x, 1, 1, 4, 150, 10, 1, 60, 10, 0, 5, -3, 6, 3);
+        x.draw(1);
+        x.draw(1);
+        figures(x, 1, 1, 4, 150, 9, 0, 54, 9, 0, 4, -3, 6, 2);
     }
 
     private static void of() {
@@ -335,6 +367,33 @@ public final class PromisesBoundsTest {
         Due.rule(z, "bars");
         z.back(0);
         Due.due("force() of a law that is gone", z.force(0), -2);
+    }
+
+    /** What a move takes and grips is what the knot takes and grips more when it is laid. */
+    private static void asksNext() {
+        Due.sentence("14", "Of a MOVE that would come next on a KNOT, to a PLACE, what it TAKES (what 0), GRIPS (1),");
+        NeckKnots x = Due.ruled("takes at + place * 3 + side;grips before * 2 - place + side");
+        x.knot(1, 2, 200);
+        x.knot(0, 5, 200);
+        int[] places = {2, 0, 1, 0, 2, 1, 2};
+        for (int at = 0; at < places.length; at++) {
+            for (int place = 0; place < 3; place++) {
+                int before = at == 0 ? -1 : places[at - 1];
+                int side = (1 + at) % 2;
+                Due.due("asks(0, " + place + ", 0) of move " + at, x.asks(0, place, 0), at + place * 3 + side);
+                Due.due("asks(0, " + place + ", 1) of move " + at, x.asks(0, place, 1), before * 2 - place + side);
+                Due.due("asks(1, " + place + ", 0), where none is laid", x.asks(1, place, 0), place * 3);
+                Due.due("moves: asking lays none", x.of(0, 3), at);
+            }
+            int takes = x.of(0, 5) + x.asks(0, places[at], 0);
+            int grip = x.of(0, 6) + x.asks(0, places[at], 1);
+            Due.due("lay()", x.lay(0, places[at]), at + 1);
+            Due.due("takes", x.of(0, 5), takes);
+            Due.due("grip", x.of(0, 6), grip);
+        }
+        NeckKnots poor = new NeckKnots();
+        poor.knot(0, 9, 1);
+        Due.due("asks() of what the cloth is not enough for", poor.asks(0, 0, 0), 11);
     }
 
     private static void asks() {
@@ -1051,6 +1110,40 @@ public final class PromisesBoundsTest {
         Due.due("not through", x.of(1, 4), 0);
     }
 
+    private static void countsOfEach() {
+        Due.sentence("38", "0 KNOTS, 1 BOYS, 2 SIGHTS, 3 LAWS, 4 how many can be undone, 5 bytes of the TAPE,");
+        NeckKnots x = new NeckKnots();
+        int[] due = {3, 4, 7, 2, 6, 5};
+        for (int i = 0; i < 3; i++) {
+            x.knot(0, 1, 200);
+        }
+        for (int i = 0; i < 4; i++) {
+            x.boy(9);
+        }
+        for (int i = 0; i < 7; i++) {
+            x.sight(i, 0);
+        }
+        for (int i = 0; i < 2; i++) {
+            Texts.law(x, "bars if at = 9");
+        }
+        for (int i = 0; i < 6; i++) {
+            x.mirror(i % 3);
+        }
+        Texts.put(x, Texts.bytes("12345"));
+        for (int what = 0; what < due.length; what++) {
+            Due.due("count(" + what + ")", x.count(what), due[what]);
+        }
+        x.undo();
+        x.undo();
+        x.home();
+        x.forget();
+        x.end(1);
+        int[] less = {3, 0, 0, 2, 4, 1};
+        for (int what = 0; what < less.length; what++) {
+            Due.due("count(" + what + ") then", x.count(what), less[what]);
+        }
+    }
+
     private static void counts() {
         Due.sentence("38", "6 .. 10 how many calls were REFUSED by -1, -2, -3, -5, -6 (IMAGES do not keep that)");
         NeckKnots x = full();
@@ -1151,16 +1244,20 @@ public final class PromisesBoundsTest {
 
     public static void main(String[] args) throws IOException {
         Due.readDocument();
-        List.<Runnable>of(PromisesBoundsTest::newObject, PromisesBoundsTest::knot, PromisesBoundsTest::of, PromisesBoundsTest::terms,
-                PromisesBoundsTest::feed, PromisesBoundsTest::end, PromisesBoundsTest::row, PromisesBoundsTest::law,
-                PromisesBoundsTest::orders, PromisesBoundsTest::fault).forEach(Runnable::run);
-        List.<Runnable>of(PromisesBoundsTest::force, PromisesBoundsTest::asks, PromisesBoundsTest::lay, PromisesBoundsTest::acts,
-                PromisesBoundsTest::undoKept, PromisesBoundsTest::undoRefused, PromisesBoundsTest::front, PromisesBoundsTest::ways,
-                PromisesBoundsTest::word, PromisesBoundsTest::rank).forEach(Runnable::run);
-        List.<Runnable>of(PromisesBoundsTest::best, PromisesBoundsTest::change, PromisesBoundsTest::alike, PromisesBoundsTest::sight,
-                PromisesBoundsTest::fits, PromisesBoundsTest::boy, PromisesBoundsTest::hands, PromisesBoundsTest::images,
-                PromisesBoundsTest::counts, PromisesBoundsTest::status).forEach(Runnable::run);
+        List.<Runnable>of(PromisesBoundsTest::newObject, PromisesBoundsTest::knot, PromisesBoundsTest::ofEach,
+                PromisesBoundsTest::of, PromisesBoundsTest::terms, PromisesBoundsTest::feed, PromisesBoundsTest::end,
+                PromisesBoundsTest::row, PromisesBoundsTest::law, PromisesBoundsTest::orders).forEach(Runnable::run);
+        List.<Runnable>of(PromisesBoundsTest::fault, PromisesBoundsTest::force, PromisesBoundsTest::asksNext,
+                PromisesBoundsTest::asks, PromisesBoundsTest::lay, PromisesBoundsTest::acts, PromisesBoundsTest::undoKept,
+                PromisesBoundsTest::undoRefused, PromisesBoundsTest::front, PromisesBoundsTest::ways).forEach(Runnable::run);
+        List.<Runnable>of(PromisesBoundsTest::word, PromisesBoundsTest::rank, PromisesBoundsTest::best,
+                PromisesBoundsTest::change, PromisesBoundsTest::alike, PromisesBoundsTest::sight, PromisesBoundsTest::fits,
+                PromisesBoundsTest::boy, PromisesBoundsTest::hands, PromisesBoundsTest::images).forEach(Runnable::run);
+        countsOfEach();
+        counts();
+        status();
         constants();
+        Due.allTold("C");
         for (int promise = 1; promise <= 39; promise++) {
             Due.allTold(String.valueOf(promise));
         }

@@ -2,7 +2,7 @@ import java.io.IOException;
 import java.util.ArrayList;
 import java.util.List;
 
-/** Each sentence of the document's terms I and II that names a boundary case has a test of its own here. */
+/** Each sentence of the document's terms I and II has a test of its own here. */
 public final class TermsBoundsTest {
     private static final int[] FAR = {Integer.MIN_VALUE, Integer.MAX_VALUE};
 
@@ -737,6 +737,59 @@ public final class TermsBoundsTest {
         Due.due("none has another one", y.ways(5, -1), 8);
     }
 
+    /** What a word of laws tells of move at, by the document's own words. */
+    private static int told(String word, int start, int[] places, int at) {
+        switch (word) {
+            case "place": return places[at];
+            case "side": return at % 2 == 0 ? start : 1 - start;
+            case "at": return at;
+            case "before": return at == 0 ? -1 : places[at - 1];
+            case "thick": return 6;
+            default: return 4;
+        }
+    }
+
+    private static void lawWords() {
+        Due.sentence("II", "Words: \"place\" | \"side\" | \"at\" | \"before\" | \"thick\" | \"mood\"."
+                + " All are asked of a MOVE: its PLACE, its SIDE");
+        int[] places = {1, 2, 0, 1, 0, 2};
+        for (String word : new String[] {"place", "side", "at", "before", "thick", "mood"}) {
+            for (int start = 0; start <= 1; start++) {
+                NeckKnots x = Due.ruled("takes 3 + " + word + ";grips " + word + " * 2 - 3;bars if " + word + " = 1");
+                x.terms(0, 4);
+                x.terms(2, 9);
+                x.knot(start, 6, 200);
+                int takes = 0;
+                int grip = 0;
+                for (int at = 0; at < places.length; at++) {
+                    int value = told(word, start, places, at);
+                    Due.due("takes 3 + " + word + " of move " + at, x.asks(0, places[at], 0), 3 + value);
+                    Due.due("grips " + word + " * 2 - 3 of move " + at, x.asks(0, places[at], 1), Math.min(2 * value - 3, 9));
+                    Due.due("bars if " + word + " = 1 of move " + at, x.asks(0, places[at], 2), value == 1 ? 1 : 0);
+                    takes += 3 + value;
+                    grip += Math.min(2 * value - 3, 9);
+                    x.force(-1);
+                    x.lay(0, places[at]);
+                    x.force(0);
+                    Due.due("takes 3 + " + word + " of all", x.of(0, 5), takes);
+                    Due.due("grips " + word + " * 2 - 3 of all", x.of(0, 6), grip);
+                }
+            }
+        }
+        Due.sentence("II", "thick: of the KNOT.");
+        NeckKnots y = Due.ruled("takes thick * 2;grips thick - 5");
+        for (int k = 0; k < 8; k++) {
+            y.terms(2, 9 - k);
+            y.knot(0, 1 + k, 200);
+        }
+        for (int k = 0; k < 8; k++) {
+            Due.due("takes thick * 2 of knot " + k, y.asks(k, 0, 0), 2 + 2 * k);
+            y.lay(k, 0);
+            Due.due("takes thick * 2 of knot " + k, y.of(k, 5), 2 + 2 * k);
+            Due.due("grips thick - 5 of knot " + k, y.of(k, 6), k - 4);
+        }
+    }
+
     private static int[] asked(String law, int thick) {
         NeckKnots x = Due.ruled(law);
         x.knot(0, thick, 200);
@@ -837,6 +890,60 @@ public final class TermsBoundsTest {
         Due.due("status()", x.status(), 0);
         Due.due("sums are asked each time", Texts.orders(x, "lay done%2 on 0 times 12"), 12);
         Due.due("the 12th", x.of(0, 23), 1);
+    }
+
+    /** A word of orders tells so much, no more and no less: what can't be is run only if it does, and leaves all. */
+    private static void tells(NeckKnots x, String word, int value) {
+        String sum = value < 0 ? "0-" + -value : "" + value;
+        Due.due(word + " = " + value, Texts.orders(x, "draw 9 if " + word + " = " + sum), -3);
+        Due.due(word + " < " + value, Texts.orders(x, "draw 9 if " + word + " < " + sum), 0);
+        Due.due(word + " > " + value, Texts.orders(x, "draw 9 if " + word + " > " + sum), 0);
+    }
+
+    private static void clauseByClause() {
+        Due.sentence("II", "Words: \"knots\" | \"done\" | \"latest\" | \"many\" K | \"end\" K | \"cloth\" K");
+        NeckKnots x = Due.with(0, 1);
+        for (int knots = 1; knots <= 8; knots++) {
+            tells(x, "knots", knots);
+            x.knot(0, 1, 200);
+        }
+        tells(x, "done", 0);
+        tells(x, "latest", -1);
+        for (int k = 0; k < 8; k++) {
+            NeckKnots y = new NeckKnots();
+            for (int i = 0; i < 8; i++) {
+                y.knot(0, 1, 200 - i);
+                Due.lay(y, i, i % 3);
+            }
+            Due.lay(y, k, (k + 1) % 3, k % 3, (k + 2) % 3);
+            tells(y, "many " + k, 4);
+            tells(y, "many" + (7 - k), 1);
+            tells(y, "cloth" + k, 200 - k - 12);
+            tells(y, "cloth " + (7 - k), 200 - (7 - k) - 3);
+            tells(y, "end " + k, (k + 2) % 3);
+            tells(y, "end" + (7 - k), (7 - k) % 3);
+        }
+        Due.sentence("II", "Run CLAUSE by CLAUSE,");
+        NeckKnots y = Due.with(0, 1);
+        Due.due("the last first", Texts.orders(y, "through 0;lay 2 on 0;lay 1 on 0;lay 0 on 0"), -3);
+        Due.due("stopped()", y.stopped(), 0);
+        Due.due("in their order", Texts.orders(y, "lay 0 on 0;lay 1 on 0;lay 2 on 0;through 0"), 4);
+        int[] tied = {0, 1, 2};
+        for (int at = 0; at < 3; at++) {
+            Due.due("place of move " + at, y.of(0, 12 + at), tied[at]);
+        }
+        NeckKnots z = Due.with(0, 1);
+        Due.due("all times of one ahead of the next", Texts.orders(z, "lay done % 2 on 0 times 4;draw 0;lay 2 on 0"), 6);
+        int[] laid = {0, 1, 0, 2};
+        for (int at = 0; at < 4; at++) {
+            Due.due("place of move " + at, z.of(0, 12 + at), laid[at]);
+        }
+        NeckKnots w = Due.with(0, 1);
+        Due.due("each sees what those ahead of it did", Texts.orders(w,
+                "mirror 0 times 3;lay 0 on 0 if done = 3;lay 1 on 0 if latest = 1;draw 0 if many 0 = 2;lay 2 on 0 if end 0 = 0"), 7);
+        Due.due("its moves", w.of(0, 3) * 100 + w.of(0, 12) * 10 + w.of(0, 13), 202);
+        Due.due("the first that can't be", Texts.orders(w, "mirror 0;draw 0 times 3;through 9"), -3);
+        Due.due("stopped()", w.stopped(), 1);
     }
 
     private static void orderWords() {
@@ -940,9 +1047,9 @@ public final class TermsBoundsTest {
                 TermsBoundsTest::orderOfRefusals, TermsBoundsTest::tape, TermsBoundsTest::tokens, TermsBoundsTest::clauses));
         all.addAll(List.of(TermsBoundsTest::grammar, TermsBoundsTest::numbers, TermsBoundsTest::parts, TermsBoundsTest::brackets,
                 TermsBoundsTest::faults, TermsBoundsTest::clauseForms, TermsBoundsTest::comparisons, TermsBoundsTest::far, TermsBoundsTest::division, TermsBoundsTest::shortCuts));
-        all.addAll(List.of(TermsBoundsTest::laws, TermsBoundsTest::words, TermsBoundsTest::holding, TermsBoundsTest::taking,
-                TermsBoundsTest::gripping, TermsBoundsTest::times, TermsBoundsTest::asking, TermsBoundsTest::orderWords,
-                TermsBoundsTest::stopping));
+        all.addAll(List.of(TermsBoundsTest::laws, TermsBoundsTest::words, TermsBoundsTest::lawWords, TermsBoundsTest::holding, TermsBoundsTest::taking,
+                TermsBoundsTest::gripping, TermsBoundsTest::times, TermsBoundsTest::asking, TermsBoundsTest::clauseByClause,
+                TermsBoundsTest::orderWords, TermsBoundsTest::stopping));
         all.forEach(Runnable::run);
         Due.allTold("I", "II");
         Due.end();
